@@ -1092,16 +1092,17 @@ public final class ChimeShares {
             ownParts[t] = 0;
             fromOthers[t] = 0;
             for (int i = 0; i < town.length[t]; i++) {
-                int b = town.strokes[t][i];
                 if (!ringing.rang(i)) {
                     continue;
                 }
+                int b = town.strokes[t][i];
+                int parts = chimes.partsOf(h, b);
                 if (chimes.owner[b] == h) {
                     valueAtNone[t] += chimes.fee[b];
                     ownStrokes[t]++;
-                    ownParts[t] += chimes.partsOf(h, b);
+                    ownParts[t] += parts;
                 } else {
-                    fromOthers[t] += chimes.shareOf(h, b);
+                    fromOthers[t] += parts * chimes.fee[b];
                 }
             }
         }
