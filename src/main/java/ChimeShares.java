@@ -777,15 +777,11 @@ public final class ChimeShares {
                 return false;
             }
             draft.worth[t] = tape.number;
-            draft.length[t] = 0;
             draft.tunes++;
-            if (!nextNumber(0, MOST_BELLS - 1)) {
-                return false;
-            }
-            return readStrokes(t) && endLine();
+            return advance() && readStrokes(t) && endLine();
         }
 
-        /** The token that has been read last is the first stroke. */
+        /** The token that has been read last must be the first stroke: a tune has one at least. */
         private boolean readStrokes(int t) {
             for (int i = 0; i <= MOST_STROKES; i++) {
                 if (i > 0 && tape.kind != Tape.NUMBER) {
@@ -1196,7 +1192,6 @@ public final class ChimeShares {
         void choose(int n, int bound) {
             ringAll();
             tunes = 0;
-            cost = 0;
             // Bits go upward, so of several feasts as cheap the least bits stay.
             for (int bits = 1; bits < 1 << town.tunes; bits++) {
                 if (Integer.bitCount(bits) == n && isWithin(bits, bound)) {

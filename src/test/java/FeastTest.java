@@ -53,6 +53,13 @@ public final class FeastTest {
         check.due("fair(7, 1, 1)", x.fair(7, 1, 1), -1);
         check.due("fair(6, 1, 2)", x.fair(6, 1, 2), -1);
         check.due("fair(6, 1, -1)", x.fair(6, 1, -1), -1);
+        for (int h = 0; h < 6; h++) {
+            ChimeShares one = Check.told("houses 6;bell " + h + " 1 0;tune 9 0 0;tune 9 0 0 0;");
+            check.due("fair(1, 1, 1) of house " + h, one.fair(1, 1, 1), -4);
+            check.due("fair(1, 2, 1) of house " + h, one.fair(1, 2, 1), 1);
+            check.due("fair(2, 4, 1) of house " + h, one.fair(2, 4, 1), -4);
+            check.due("fair(2, 5, 0) of house " + h, one.fair(2, 5, 0), 5);
+        }
         x.shut(1, true);
         check.due("fair(1, 0, 1): only what rings counts", x.fair(1, 0, 1), 4);
     }

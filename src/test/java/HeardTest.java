@@ -115,6 +115,18 @@ public final class HeardTest {
         check.due("feuds(0)", x.feuds(0), 4);
         check.due("feuds(1)", x.feuds(1), 0);
         check.due("count(3)", x.count(3), 2);
+        check.due("which(0)", x.which(0), 0);
+        x.hush();
+        x.hear(1);
+        x.hear(1);
+        check.due("which(1)", x.which(1), 2);
+        x.keep(1);
+        x.hush();
+        x.hear(-4);
+        x.hear(0);
+        check.due("which(1)", x.which(1), -4);
+        x.back(1);
+        check.due("which(1): as it was heard then", x.which(1), 2);
         x.hear(2);
         check.due("back(0): none taken then", x.back(0), -4);
         check.due("bell(1, 0)", x.bell(1, 0), 0);

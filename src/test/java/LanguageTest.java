@@ -133,6 +133,7 @@ public final class LanguageTest {
         int[] edges = {0, 1, 2, 3, 5, 6, 10, 11, 12, 13, 20, 40, 41, 72, 999, 1000, -1, -2, -3, -4, -5, 21, 22,
             Integer.MAX_VALUE, Integer.MAX_VALUE - 9, Integer.MIN_VALUE, Integer.MIN_VALUE + 9};
         String[] states = {"", "houses 1;", "bell 0 0 0;", "houses 6;bell 5 20 9 half 0;bell 0 20 9 shut;tune 99 0 1 0;feud 0 5;",
+            "houses 6;feud 5 0;bell 0 1 1;" + "bell 5 1 1;".repeat(11) + "tune 9 11;".repeat(6),
             "bell 0 1 1;".repeat(12) + "tune 50 0 1 2 3 4 5 6 7 8 9 10 11;" + "tune 40 11 10 9 8 7 6 5 4 3 2 1 0;"};
         for (String state : states) {
             ChimeShares x = Check.told(state);

@@ -94,6 +94,7 @@ public final class RingTest {
         check.due("best(1, 0)", y.best(1, 0), 0);
         check.due("best(1, 1)", y.best(1, 1), 3);
         check.due("best(0, 0)", y.best(0, 0), 20);
+        check.due("best(1, 0) behind it", y.best(1, 0), 0);
         check.due("best(0, 1)", y.best(0, 1), 20);
     }
 
@@ -107,6 +108,13 @@ public final class RingTest {
         }
         check.due("settled()", x.settled(), 1);
         check.due("settle(1)", x.settle(1), 0);
+        for (int h = 0; h < 6; h++) {
+            ChimeShares one = Check.told("houses 6;bell " + h + " 1 0;tune 9 0;");
+            check.due("settled(): house " + h + " asks for more", one.settled(), 0);
+            check.due("settle(2)", one.settle(2), 1);
+            check.due("bell(0, 1)", one.bell(0, 1), 8);
+            check.due("settled()", one.settled(), 1);
+        }
         ChimeShares y = town();
         check.due("settle(2)", y.settle(2), 1);
         check.due("settle(30)", y.settle(30), 0);

@@ -109,6 +109,11 @@ public final class TextTest {
         check.due("count(6): sheets stay", x.count(6), 5);
         check.due("back(0)", x.back(0), -2);
         check.due("bell(0, 4)", x.bell(0, 4), -4);
+        check.due("text() of a shut bell, half another's", Check.tell(x, "bell 0 0 0 shut half 1;tune 1 0 0 0;"), 2);
+        check.due("text() of an open one", Check.tell(x, "bell 0 0 0;tune 1 0;"), 2);
+        check.due("bell(0, 3)", x.bell(0, 3), 0);
+        check.due("bell(0, 4)", x.bell(0, 4), -4);
+        check.due("tune(0, 1)", x.tune(0, 1), 1);
         check.due("text() of nothing", x.text(), 0);
         check.due("count(0)", x.count(0), 0);
     }
@@ -131,6 +136,13 @@ public final class TextTest {
         check.refused("gap 5\u0000;", 1, 5);
         check.refused("gap 5\u00e1;", 1, 5);
         check.refused("ga p 5;", 2, 0);
+        check.refused("az 5;", 2, 0);
+        check.refused("cap 5;", 2, 0);
+        check.refused("gaq 5;", 2, 0);
+        check.refused("gap 5 `;", 1, 6);
+        check.refused("gap 5 {;", 1, 6);
+        check.refused("gap /;", 1, 4);
+        check.refused("gap :;", 1, 4);
     }
 
     private static void faults() {
@@ -164,6 +176,11 @@ public final class TextTest {
         check.refused("feud 6 100;", 3, 5);
         check.refused("bell half 100;", 2, 5);
         check.refused("bell 0 100 99;", 1, 7);
+        check.refused("bell 0 0 0 shut ,", 1, 16);
+        check.refused("bell 0 0 0 half 1 ,", 1, 18);
+        check.refused("tune 100 0;", 1, 5);
+        check.refused("tune 1 100;", 1, 7);
+        check.refused("tune;", 2, 4);
     }
 
     private static void boundsTaken() {
