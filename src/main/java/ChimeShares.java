@@ -1321,11 +1321,9 @@ public final class ChimeShares {
             return (rang & refusedBy(t)) == 0;
         }
 
+        /** What is told of the first one and of each one holds where there is one that fits. */
         void compareAll() {
             fitting = 0;
-            first = NONE;
-            refusedByFirst = 0;
-            refusedByEach = 0;
             for (int t = 0; t < town.tunes; t++) {
                 if (canBe(t)) {
                     addFitting(t);

@@ -136,7 +136,7 @@ public final class TextTest {
         check.refused("gap 5\u0000;", 1, 5);
         check.refused("gap 5\u00e1;", 1, 5);
         check.refused("ga p 5;", 2, 0);
-        check.refused("az 5;", 2, 0);
+        check.refused("zz 5;", 2, 0);
         check.refused("cap 5;", 2, 0);
         check.refused("gaq 5;", 2, 0);
         check.refused("gap 5 `;", 1, 6);
