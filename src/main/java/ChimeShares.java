@@ -787,8 +787,9 @@ public final class ChimeShares {
                 if (i > 0 && tape.kind != Tape.NUMBER) {
                     return true;
                 }
-                if (!isNumber(0, MOST_BELLS - 1)) {
-                    return false;
+                int found = faultOfNumber(0, MOST_BELLS - 1);
+                if (found != 0) {
+                    return refuse(found);
                 }
                 if (i >= MOST_STROKES) {
                     return refuse(TOO_MANY);
@@ -822,14 +823,20 @@ public final class ChimeShares {
         }
 
         private boolean nextNumber(int least, int most) {
-            return advance() && isNumber(least, most);
+            tape.readToken();
+            int found = faultOfNumber(least, most);
+            return found == 0 || refuse(found);
         }
 
-        private boolean isNumber(int least, int most) {
-            if (tape.kind != Tape.NUMBER) {
-                return refuse(OUT_OF_PLACE);
+        /** What is wrong with the token read last, where a number within these bounds must stand; 0, if nothing. */
+        private int faultOfNumber(int least, int most) {
+            if (tape.kind == Tape.NO_TOKEN) {
+                return NOT_A_TOKEN;
             }
-            return (tape.number >= least && tape.number <= most) || refuse(OUT_OF_BOUNDS);
+            if (tape.kind != Tape.NUMBER) {
+                return OUT_OF_PLACE;
+            }
+            return tape.number < least || tape.number > most ? OUT_OF_BOUNDS : 0;
         }
 
         private boolean advance() {
